@@ -1437,14 +1437,15 @@ public final class AllIsWell {
             }
         }
 
+        /** How many are DOUBTFUL at the most, by no SIGH or one below one TOWER. */
         private int worstBySigh(State now, int cheered) {
             int worst = 0;
-            for (int t = NONE; t < course.towers(); t++) {
+            for (int sighs = 0; sighs <= course.towers(); sighs++) {
                 trial.copy(now);
                 if (cheered >= 0 && cheered < MOST_TOWERS) {
                     trial.cheer[cheered] = TOP;
                 }
-                course.go(trial, t == NONE ? 0 : 1 << t);
+                course.go(trial, sighs == 0 ? 0 : 1 << sighs - 1);
                 worst = Math.max(worst, course.doubtfulOnes());
             }
             return worst;

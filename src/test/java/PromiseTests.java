@@ -415,13 +415,21 @@ public final class PromiseTests {
         d.due("settles(0)", d.x.settles(0), 1);
         d.castle("call 5;tower a mood 1 cheer 0;says 3;");
         d.due("the last tone counts", d.x.settles(0), 2);
-        // two digits that count: 100 states in a ring, beyond sixty rounds
-        d.castle("call 9;tower a mood 0 cheer 0;tower b mood 0 cheer 0;"
-            + "says mood;feels (mood+1-place+place*(heard/9))-(mood+1-place+place*(heard/9))/10*10;");
+        d.castle(counting(58));
+        d.due("behind sixty", d.x.settles(0), 60);
+        d.due("behind sixty", d.x.settles(1), 1);
+        d.castle(counting(59));
         d.due("beyond sixty", d.x.settles(0), -1);
         d.due("beyond sixty", d.x.settles(1), -1);
         d.castle("call 0;tower a mood 0 cheer 0;says round/60;feels round/59;");
-        d.due("settles(0)", d.x.settles(0), 1);
+        d.due("the round is no part of it", d.x.settles(0), 1);
+    }
+
+    /** Two towers whose moods tell the round in two digits, up to so many. */
+    private static String counting(int most) {
+        String m = "min(round," + most + ")";
+        return "call 5;tower a mood 9 cheer 0;tower b mood 9 cheer 0;says 5;feels (1-place)*(" + m + "-" + m + "/10*10)+place*("
+            + m + "/10);";
     }
 
     private static void cheeredTowers() {
@@ -764,6 +772,13 @@ public final class PromiseTests {
         d.due("has(7)", d.x.has(7), 1);
     }
 
+    /** Texts, each with its answer behind it. */
+    private static void answers(Desk d, Object... pairs) {
+        for (int k = 0; k < pairs.length; k += 2) {
+            d.due("ask() of " + pairs[k], d.ask((String) pairs[k]), (Integer) pairs[k + 1]);
+        }
+    }
+
     private static void questions() {
         Desk d = new Desk("promise 31");
         d.due("without a castle", d.ask("often all"), AllIsWell.NOTHING);
@@ -778,31 +793,17 @@ public final class PromiseTests {
         d.due("total without towers", d.ask("total 5"), 0);
         d.due("often without towers", d.ask("often all"), 0);
         d.castle(THREE + "feels tone;");
-        String[] texts = {
-            "first mood>4", "last mood>4", "often mood>4", "often mood<5", "often mood=5", "first mood>8",
-            "total mood*10+cheer", "most cheer-mood", "least cheer-mood", "total number", "total yes", "total round",
-            "total tone", "total glad", "total heard 0", "total heard(1+1)", "total heard 30", "total heard 31",
-            "total heard (0-1)", "total heard number", "total heard heard number*2", "often not all", "often not not all",
-            "often mood>4 and cheer>0 or yes=1", "often mood>4 and [cheer>0 or yes=1]", "often not mood>4 and yes=1",
-            "often [all]", "often all or all and not all", "total min(mood,4)", "total max(mood,4)+1",
-            "total 9999*9999", "total (0-9999)*9999", "total 0-7/2", "total (0-7)/2", "total 7/0", "\n last\nall ",
-            "first(1)=1", "first[all]", "often 1=1and 2=2"};
-        // ann says 6 and feels so, bob 5, cid 9; then ann hears 9 and says min(9, 7), bob min(7, 8), cid 9
-        long[] want = {
-            0, 2, 2, 1, 1, -1,
-            154, 1, -8, 3, 1, 0,
-            20, 20, 20, 26, 27, -3,
-            -3, 22, 0, 0, 3,
-            2, 2, 0,
-            3, 3, 10, 20,
-            3000000, -3000000, -9, -12, 0, 2,
-            0, 0, AllIsWell.NOTHING};
-        for (int k = 0; k < texts.length; k++) {
-            if (k == 15 || k == 16 || k == 19 || k == 20) {
-                continue;
-            }
-            d.due("ask() of " + texts[k], d.ask(texts[k]), want[k]);
-        }
+        // ann says 6 and feels so, bob 5, cid 9
+        answers(d, "first mood>4", 0, "last mood>4", 2, "often mood>4", 2, "often mood<5", 1, "often mood=5", 1);
+        answers(d, "first mood>8", -1, "last mood>8", -1, "\n last\nall ", 2, "first(1)=1", 0, "first[all]", 0);
+        answers(d, "total mood*10+cheer", 154, "most cheer-mood", 1, "least cheer-mood", -8);
+        answers(d, "total number", 3, "total yes", 1, "total round", 0, "total tone", 20, "total glad", 20);
+        answers(d, "total heard 0", 20, "total heard 31", -3, "total heard (0-1)", -3);
+        answers(d, "often not all", 0, "often not not all", 3, "often not mood>4 and yes=1", 0);
+        answers(d, "often mood>4 and cheer>0 or yes=1", 2, "often mood>4 and [cheer>0 or yes=1]", 2);
+        answers(d, "often [all]", 3, "often all or all and not all", 3, "often [all or all] and not all", 0);
+        answers(d, "total min(mood,4)", 10, "total max(mood,4)+1", 20, "total 0-7/2", -9, "total (0-7)/2", -12);
+        answers(d, "total 9999*9999", 3000000, "total (0-9999)*9999", -3000000, "total 7/0", 0);
         for (int k = 0; k <= 30; k++) {
             long said = d.x.tone(0, k) + d.x.tone(1, k) + d.x.tone(2, k);
             d.due("total heard " + k, d.ask("total heard " + k), said);
@@ -837,6 +838,7 @@ public final class PromiseTests {
         d.askFault("often all5", 1, 9);
         d.askFault("often5>4", 1, 5);
         d.askFault("often 5>4or all", 1, 9);
+        d.askFault("often 1=1and 2=2", 1, 9);
         d.askFault("total heard3", 1, 11);
         d.askFault("total place", 1, 6);
         d.askFault("total sigh", 1, 6);
