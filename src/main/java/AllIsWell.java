@@ -819,7 +819,7 @@ public final class AllIsWell {
             }
         }
 
-        void readSum() {
+        private void readSum() {
             readProduct();
             for (int k = 0; k < MOST_BYTES && (tape.isSign('+') || tape.isSign('-')); k++) {
                 int sign = tape.isSign('+') ? ADD : TAKE;
