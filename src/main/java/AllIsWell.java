@@ -13,6 +13,7 @@ public final class AllIsWell {
     private static final int MOST_KEPT = 40;
     private static final int MOST_CHOSEN = 3;
     private static final int LAST_ROUND = 999;
+    private static final int MOST_GONE = 100;
     private static final int FARTHEST = 60;
     private static final int NEAR = 30;
     /** Rounds 0 .. 30 ahead: as many are looked at by what is seen and by questions. */
@@ -210,7 +211,7 @@ public final class AllIsWell {
     }
 
     public int mood(int tower, int n) {
-        if (!isTower(tower) || n < 0 || n > FARTHEST || now.round + n > LAST_ROUND) {
+        if (!isTower(tower) || !canBeAhead(n, 0, FARTHEST)) {
             return NONE;
         }
         goAhead(n);
@@ -259,15 +260,15 @@ public final class AllIsWell {
     // ---- cheer, sighs, places
 
     public int cheered(int n) {
-        return isTold() && isNear(n) ? advice.fewestToCheer(now, n) : NONE;
+        return isTold() && canBeAhead(n, 1, NEAR) ? advice.fewestToCheer(now, n) : NONE;
     }
 
     public int sighs(int n) {
-        return isTold() && isNear(n) ? advice.fewestToSigh(now, n) : NONE;
+        return isTold() && canBeAhead(n, 1, NEAR) ? advice.fewestToSigh(now, n) : NONE;
     }
 
     public int better(int n, int what) {
-        if (!isTold() || !isNear(n) || what < 0 || what > 1) {
+        if (!isTold() || !canBeAhead(n, 1, NEAR) || what < 0 || what > 1) {
             return NONE;
         }
         advice.seekYes(now, n);
@@ -278,7 +279,7 @@ public final class AllIsWell {
     }
 
     public int placed(int n, int what) {
-        if (!isTold() || !isNear(n) || what < 0 || what > 2) {
+        if (!isTold() || !canBeAhead(n, 1, NEAR) || what < 0 || what > 2) {
             return NONE;
         }
         advice.seekPlaces(now, n);
@@ -300,12 +301,12 @@ public final class AllIsWell {
     }
 
     public int rule(int k, int n) {
-        if (!isTold() || k < 1 || k > MOST_TOWERS || n < 1 || n > FARTHEST) {
+        if (!isTold() || k < 1 || k > MOST_TOWERS || !canBeAhead(n, 1, FARTHEST)) {
             return NONE;
         }
         int rung = 0;
         ahead.copy(now);
-        for (int i = 0; i < n && ahead.hasNext(); i++) {
+        for (int i = 0; i < n; i++) {
             course.go(ahead, 0);
             if (course.rowOf(k) != NONE) {
                 rung++;
@@ -482,8 +483,9 @@ public final class AllIsWell {
         return tower >= 0 && tower < told.towers;
     }
 
-    private boolean isNear(int n) {
-        return n >= 1 && n <= NEAR;
+    /** Whether n ROUNDS can be asked for and all of them still come: fewer than n are no answer for n. */
+    private boolean canBeAhead(int n, int least, int most) {
+        return n >= least && n <= most && now.round + n <= LAST_ROUND;
     }
 
     private boolean comes(int round) {
@@ -491,7 +493,7 @@ public final class AllIsWell {
     }
 
     private boolean canGo(int n) {
-        return isTold() && n >= 1 && n <= 100 && now.round + n <= LAST_ROUND;
+        return isTold() && canBeAhead(n, 1, MOST_GONE);
     }
 
     private int moodsTogether() {
@@ -1372,7 +1374,7 @@ public final class AllIsWell {
                     trial.cheer[t] = TOP;
                 }
             }
-            for (int k = 0; k < n && trial.hasNext(); k++) {
+            for (int k = 0; k < n; k++) {
                 course.go(trial, k == 0 ? sighs : 0);
                 if (course.isFire()) {
                     return true;
@@ -1408,7 +1410,7 @@ public final class AllIsWell {
         /** How many are DOUBTFUL in n ROUNDS of the trial, all together. */
         private int tryRounds(int n) {
             int together = 0;
-            for (int k = 0; k < n && trial.hasNext(); k++) {
+            for (int k = 0; k < n; k++) {
                 course.go(trial, 0);
                 together += course.doubtfulOnes();
             }

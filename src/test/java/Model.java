@@ -173,13 +173,16 @@ final class Model {
     private boolean firesWithin(int n, int sighs) {
         Model m = copy();
         boolean fire = false;
-        for (int k = 0; k < n && m.round < 999; k++) {
+        for (int k = 0; k < n; k++) {
             fire |= m.row(m.go(k == 0 ? sighs : 0), fires) >= 0;
         }
         return fire;
     }
 
     int cheered(int n) {
+        if (round + n > 999) {
+            return -1;
+        }
         int best = -1;
         for (int bits = 0; bits < 1 << towers; bits++) {
             Model m = copy();
@@ -195,6 +198,9 @@ final class Model {
     }
 
     int sighs(int n) {
+        if (round + n > 999) {
+            return -1;
+        }
         int best = -1;
         for (int bits = 0; bits < 1 << towers; bits++) {
             if (Integer.bitCount(bits) <= 3 && firesWithin(n, bits)
@@ -208,13 +214,16 @@ final class Model {
     int together(int n) {
         Model m = copy();
         int sum = 0;
-        for (int k = 0; k < n && m.round < 999; k++) {
+        for (int k = 0; k < n; k++) {
             sum += m.doubtful(m.go(0));
         }
         return sum;
     }
 
     int[] better(int n) {
+        if (round + n > 999) {
+            return new int[] {-1, -1};
+        }
         int[] best = {-1, together(n)};
         for (int t = 0; t < towers; t++) {
             Model m = copy();
@@ -236,6 +245,9 @@ final class Model {
     }
 
     int[] placed(int n) {
+        if (round + n > 999) {
+            return new int[] {-1, -1, -1};
+        }
         int[] best = {-1, -1, together(n)};
         for (int a = 0; a < towers; a++) {
             for (int b = a + 1; b < towers; b++) {
@@ -271,9 +283,12 @@ final class Model {
     }
 
     int rule(int k, int n) {
+        if (round + n > 999) {
+            return -1;
+        }
         Model m = copy();
         int rung = 0;
-        for (int i = 0; i < n && m.round < 999; i++) {
+        for (int i = 0; i < n; i++) {
             rung += m.row(m.go(0), k) >= 0 ? 1 : 0;
         }
         return rung;

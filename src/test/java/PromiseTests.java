@@ -944,7 +944,16 @@ public final class PromiseTests {
         d.due("mood(0, 3)", d.x.mood(0, 3), -1);
         d.due("doubts(1)", d.x.doubts(1), 1);
         d.due("doubts(2)", d.x.doubts(2), -1);
-        d.due("rule(1, 60)", d.x.rule(1, 60), 2);
+        d.due("rule(1, 2)", d.x.rule(1, 2), 2);
+        d.due("rule(1, 3)", d.x.rule(1, 3), -1);
+        d.due("rule(1, 60)", d.x.rule(1, 60), -1);
+        d.due("cheered(2)", d.x.cheered(2), 1);
+        d.due("cheered(3)", d.x.cheered(3), -1);
+        d.due("sighs(2)", d.x.sighs(2), 0);
+        d.due("sighs(3)", d.x.sighs(3), -1);
+        d.due("better(2, 0)", d.x.better(2, 0), 0);
+        d.due("better(3, 0)", d.x.better(3, 0), -1);
+        d.due("better(3, 1)", d.x.better(3, 1), -1);
         d.due("total heard 1", d.ask("total heard 1"), 2);
         d.due("total heard 2", d.ask("total heard 2"), -1);
         d.see(1, 0, 2);
@@ -967,6 +976,8 @@ public final class PromiseTests {
         d.due("game(1)", d.x.game(1), -1);
         d.due("better(1, 0)", d.x.better(1, 0), -1);
         d.due("sighs(1)", d.x.sighs(1), -1);
+        d.due("cheered(1)", d.x.cheered(1), -1);
+        d.due("rule(8, 1)", d.x.rule(8, 1), -1);
         d.due("total tone", d.ask("total tone"), -1);
         d.due("total glad", d.ask("total glad"), -1);
         d.due("total mood", d.ask("total mood"), 2);
@@ -974,6 +985,13 @@ public final class PromiseTests {
         d.on(Desk.checked(3, 231, 9, 2, 0, 0));
         d.due("moods(0) of nothing seen", d.x.moods(0), 1023);
         d.due("tells(0, 0), no round comes", d.x.tells(0, 0), -1);
+        d.castle("call 9;tower a mood 0 cheer 0;tower b mood 9 cheer 0;");
+        d.on(Desk.checked(3, 230, 9, 0, 0, 0, 9, 0, 0));
+        d.due("placed(1, 0)", d.x.placed(1, 0), 0);
+        d.due("placed(1, 1)", d.x.placed(1, 1), 1);
+        d.due("placed(1, 2)", d.x.placed(1, 2), 1);
+        d.due("placed(2, 0)", d.x.placed(2, 0), -1);
+        d.due("placed(2, 2)", d.x.placed(2, 2), -1);
     }
 
     private static void statuses() {
