@@ -5,6 +5,8 @@ final class Desk {
     static int wrong = 0;
     static int asked = 0;
     AllIsWell x = new AllIsWell();
+    /** The castle of which each question is asked on an object of its own; empty: on the one at hand. */
+    String world = "";
     private final String name;
 
     Desk(String name) {
@@ -65,6 +67,24 @@ final class Desk {
         return x.on();
     }
 
+    /** A castle that must be one. */
+    void tell(String text) {
+        due("castle() of '" + text + "' is one", castle(text) != -1, true);
+    }
+
+    void answer(String question, long want) {
+        due("ask() of '" + question + "'", ask(question), want);
+    }
+
+    /** All is as it stands, but at another ROUND. */
+    void at(int round) {
+        int[] image = image();
+        int[] other = java.util.Arrays.copyOf(image, image.length - 1);
+        other[0] = round / 256;
+        other[1] = round % 256;
+        due("on() at round " + round, on(checked(other)), true);
+    }
+
     /** The image of now, as its bytes. */
     int[] image() {
         int[] bytes = new int[x.image()];
@@ -85,18 +105,32 @@ final class Desk {
         return bytes;
     }
 
+    /** Reads a castle's text on an object of its own; fault 0: it has none. */
     void fault(String text, int fault, int place) {
+        x = new AllIsWell();
         int got = castle(text);
-        due("castle() of '" + text + "'", got, fault == 0 ? got : -1);
+        due("castle() of '" + text + "' is one", got != -1, fault == 0);
         due("fault(0) of '" + text + "'", x.fault(0), fault);
         due("fault(1) of '" + text + "'", x.fault(1), place);
     }
 
+    void good(String text) {
+        fault(text, 0, -1);
+    }
+
     void askFault(String text, int fault, int place) {
+        if (!world.isEmpty()) {
+            x = new AllIsWell();
+            castle(world);
+        }
         long got = ask(text);
-        due("ask() of '" + text + "'", got, fault == 0 ? got : AllIsWell.NOTHING);
+        due("ask() of '" + text + "' has an answer", got != AllIsWell.NOTHING, fault == 0);
         due("fault(0) of '" + text + "'", x.fault(0), fault);
         due("fault(1) of '" + text + "'", x.fault(1), place);
+    }
+
+    void askGood(String text) {
+        askFault(text, 0, -1);
     }
 
     static void close(String tests) {
