@@ -637,22 +637,20 @@ public final class AllIsWell {
             if (faultKind != 0) {
                 return;
             }
-            boolean wantsBlank = kind == WORD || kind == NUMBER;
+            boolean wantsBlank = isLong();
             int behind = start + size;
             skipBlanks(behind);
-            if (start >= length) {
-                kind = END;
-                size = 0;
-            } else if (isLetter(bytes[start])) {
-                readWord();
-            } else if (isDigit(bytes[start])) {
-                readNumber();
-            } else {
-                kind = SIGN;
-                size = 1;
-                value = bytes[start];
+            kind = kindAt(start);
+            size = kind == END ? 0 : 1;
+            while (start + size < length && isLong() && kindAt(start + size) == kind) {
+                size++;
             }
-            if (wantsBlank && start == behind && (kind == WORD || kind == NUMBER)) {
+            switch (kind) {
+                case WORD: value = wordHere(); break;
+                case NUMBER: value = numberHere(); break;
+                default: value = kind == SIGN ? bytes[start] : NONE; break;
+            }
+            if (wantsBlank && start == behind && isLong()) {
                 kind = MISFIT;
             }
         }
@@ -664,40 +662,43 @@ public final class AllIsWell {
             }
         }
 
-        private void readWord() {
-            kind = WORD;
-            size = 0;
-            while (start + size < length && isLetter(bytes[start + size])) {
-                size++;
+        /** What the byte at a place belongs to. */
+        private int kindAt(int place) {
+            if (place < 0 || place >= length) {
+                return END;
             }
-            value = NONE;
-            for (int w = 0; w < ALL_WORDS && size <= MOST_LETTERS && value == NONE; w++) {
+            int b = bytes[place];
+            if (b >= 'a' && b <= 'z') {
+                return WORD;
+            }
+            return b >= '0' && b <= '9' ? NUMBER : SIGN;
+        }
+
+        /** Words and numbers have more than one byte, and need a blank between them. */
+        private boolean isLong() {
+            return kind == WORD || kind == NUMBER;
+        }
+
+        private int wordHere() {
+            for (int w = 0; w < ALL_WORDS && size <= MOST_LETTERS; w++) {
                 int k = 0;
                 while (k < MOST_LETTERS && WORDS.charAt(w * MOST_LETTERS + k) == (k < size ? bytes[start + k] : ' ')) {
                     k++;
                 }
-                value = k == MOST_LETTERS ? w : NONE;
-            }
-        }
-
-        private void readNumber() {
-            kind = NUMBER;
-            size = 0;
-            value = 0;
-            while (start + size < length && isDigit(bytes[start + size])) {
-                if (size < MOST_DIGITS) {
-                    value = value * 10 + bytes[start + size] - '0';
+                if (k == MOST_LETTERS) {
+                    return w;
                 }
-                size++;
             }
+            return NONE;
         }
 
-        private static boolean isLetter(int b) {
-            return b >= 'a' && b <= 'z';
-        }
-
-        private static boolean isDigit(int b) {
-            return b >= '0' && b <= '9';
+        /** A 5th digit is faulted by its own, so that more digits need no room. */
+        private int numberHere() {
+            int number = 0;
+            for (int k = 0; k < size && k < MOST_DIGITS; k++) {
+                number = number * 10 + bytes[start + k] - '0';
+            }
+            return number;
         }
 
         boolean isEnd() {
