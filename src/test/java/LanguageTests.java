@@ -1,124 +1,117 @@
-import java.io.IOException;
-import java.lang.reflect.Constructor;
+import java.lang.management.ManagementFactory;
 import java.lang.reflect.Field;
 import java.lang.reflect.Method;
 import java.lang.reflect.Modifier;
-import java.nio.file.Files;
-import java.nio.file.Path;
 import java.util.Set;
 import java.util.TreeSet;
-import java.util.regex.Matcher;
-import java.util.regex.Pattern;
 
-/** The rules of LANGUAGE.md that can be seen in the source or in the class. */
+/** The rules of LANGUAGE.md that can be seen in the class itself: its face, its fields, the room that its calls take. */
 public final class LanguageTests {
-    private static final String FACE = "feed end castle fault has letter tower kept tone mood doubts fire settles cheered sighs "
-        + "better placed game rule see moods tells cheer yes change rounds chance undo seed ask image octet on status";
-    private static final Desk DESK = new Desk("language");
+    /** The document's face, method by method. */
+    private static final Set<String> FACE = Set.of(
+        "int feed(int,int,int,int,int)", "boolean end(int)", "int castle()", "int fault(int)", "int has(int)",
+        "int letter(int,int)", "int tower(int,int)", "int kept(int,int)", "int tone(int,int)", "int mood(int,int)",
+        "int doubts(int)", "int fire()", "int settles(int)", "int cheered(int)", "int sighs(int)", "int better(int,int)",
+        "int placed(int,int)", "int game(int)", "int rule(int,int)", "int see()", "int moods(int)", "int tells(int,int)",
+        "boolean cheer(int,int)", "boolean yes(int,int)", "boolean change(int,int)", "int rounds(int)", "int chance(int)",
+        "boolean undo()", "boolean seed(int)", "long ask()", "int image()", "int octet(int)", "boolean on()", "int status(int)");
+    /** "Some twelve" classes, "some twenty" fields. */
+    private static final int MOST_CLASSES = 14;
+    private static final int MOST_FIELDS = 22;
+    /** 7.3 million fields and elements, by the four bytes of an int. */
+    private static final long ROOM = 7300000L * 4;
+    private static final Desk DESK = new Desk("class");
 
-    public static void main(String[] args) throws IOException {
-        String source = Files.readString(Path.of("src/main/java/AllIsWell.java"));
-        words(source.replaceAll("(?s)/\\*.*?\\*/", "").replaceAll("//[^\n]*", "").replaceAll("\"[^\"\n]*\"", "\"\""));
-        signs(source);
-        lengths(source);
+    public static void main(String[] args) {
         face();
-        fields();
+        classes();
+        room();
         Desk.close("LanguageTests");
     }
 
-    private static void absent(String source, String pattern) {
-        Matcher m = Pattern.compile(pattern).matcher(source);
-        DESK.due("the source has " + pattern, m.find(), false);
-    }
-
-    private static void words(String source) {
-        for (String word : "throw throws try catch finally synchronized assert import package var protected volatile transient native".split(" ")) {
-            absent(source, "\\b" + word + "\\b");
-        }
-        absent(source, "->");
-        absent(source, "::");
-        absent(source, "Exact\\s*\\(");
-        absent(source, "static\\s*\\{");
-        absent(source, "@");
-        absent(source, "\\b(System|Thread|Runtime|Object|Exception)\\b(?!\\.arraycopy)");
-        absent(source, "\"\\s*\\+|\\+\\s*\"");
-        absent(source, "while\\s*\\(true\\)|for\\s*\\(\\s*;\\s*;");
-    }
-
-    private static void signs(String source) {
-        for (int k = 0; k < source.length(); k++) {
-            if (source.charAt(k) > 126) {
-                DESK.due("sign " + k + " of the source", source.charAt(k), 32);
-            }
-        }
-    }
-
-    private static void lengths(String source) {
-        String[] lines = source.split("\n");
-        Pattern head = Pattern.compile("^( {4}| {8})(?! )(?!.*\\bclass\\b)[^;=]*\\)\\s*\\{$");
-        int heads = 0;
-        for (int k = 0; k < lines.length; k++) {
-            Matcher m = head.matcher(lines[k]);
-            if (!m.find()) {
-                continue;
-            }
-            int end = k;
-            while (!lines[end].equals(m.group(1) + "}")) {
-                end++;
-            }
-            heads++;
-            DESK.due("lines of " + lines[k].trim() + ": " + (end - k + 1), end - k + 1 <= 60, true);
-        }
-        DESK.due("methods were found", heads > 100, true);
-    }
-
     private static void face() {
-        Set<String> due = new TreeSet<>(Set.of(FACE.split(" ")));
+        Set<String> names = new TreeSet<>();
+        for (String row : FACE) {
+            names.add(row.substring(row.indexOf(' ') + 1, row.indexOf('(')));
+        }
         Set<String> open = new TreeSet<>();
         for (Method m : AllIsWell.class.getDeclaredMethods()) {
-            boolean hidden = Modifier.isPrivate(m.getModifiers()) || m.isSynthetic();
-            if (!hidden) {
-                open.add(m.getName());
-                DESK.due(m.getName() + " is public", Modifier.isPublic(m.getModifiers()), true);
+            if (Modifier.isPublic(m.getModifiers())) {
+                open.add(m.toString().replace("public ", "").replace("AllIsWell.", ""));
+            } else if (!m.isSynthetic()) {
+                DESK.due("rule 1: " + m + " is private", Modifier.isPrivate(m.getModifiers()), true);
+                DESK.due("rule 1: " + m + " bears a public one's name", names.contains(m.getName()), false);
             }
-            DESK.due(m + " bears a public one's name", Modifier.isPrivate(m.getModifiers()) && due.contains(m.getName()), false);
         }
-        DESK.due("the face is " + open, open.equals(due), true);
-        DESK.due("the class is public and final", Modifier.isPublic(AllIsWell.class.getModifiers())
-            && Modifier.isFinal(AllIsWell.class.getModifiers()), true);
-        Constructor<?>[] made = AllIsWell.class.getDeclaredConstructors();
-        DESK.due("constructors", made.length, 1);
+        DESK.due("rule 1: the face is " + open, open.equals(new TreeSet<>(FACE)), true);
+        DESK.due("rule 1: public and final", AllIsWell.class.getModifiers(), Modifier.PUBLIC | Modifier.FINAL);
+        DESK.due("rule 1: constructors", AllIsWell.class.getDeclaredConstructors().length, 1);
+        DESK.due("rule 1: public constructors", AllIsWell.class.getConstructors().length, 1);
+        DESK.due("rule 1: public fields", AllIsWell.class.getFields().length, 2);
         DESK.due("NONE", AllIsWell.NONE, -1);
         DESK.due("NOTHING", AllIsWell.NOTHING, -1000000000000000L);
-        DESK.due("classes", AllIsWell.class.getDeclaredClasses().length <= 11, true);
     }
 
-    private static void fields() {
-        inspect(AllIsWell.class);
-        for (Class<?> c : AllIsWell.class.getDeclaredClasses()) {
-            DESK.due(c + " is static", Modifier.isStatic(c.getModifiers()), true);
-            DESK.due(c + " is private", Modifier.isPrivate(c.getModifiers()), true);
-            inspect(c);
+    private static void classes() {
+        Class<?>[] inside = AllIsWell.class.getDeclaredClasses();
+        DESK.due("rule 11: classes", inside.length < MOST_CLASSES, true);
+        fields(AllIsWell.class);
+        for (Field f : AllIsWell.class.getDeclaredFields()) {
+            boolean constant = Modifier.isPublic(f.getModifiers());
+            DESK.due("rule 1: " + f + " is private", constant || Modifier.isPrivate(f.getModifiers()), true);
+        }
+        for (Class<?> c : inside) {
+            int shown = c.getModifiers() & (Modifier.PUBLIC | Modifier.PROTECTED);
+            DESK.due("rule 1: " + c + " is hidden", shown, 0);
+            DESK.due("rule 2: " + c + " is static", Modifier.isStatic(c.getModifiers()), true);
+            fields(c);
         }
     }
 
-    private static void inspect(Class<?> c) {
+    private static void fields(Class<?> c) {
         int own = 0;
         for (Field f : c.getDeclaredFields()) {
             if (Modifier.isStatic(f.getModifiers())) {
-                DESK.due(f + " is final", Modifier.isFinal(f.getModifiers()), true);
+                DESK.due("rule 5: " + f + " is final", Modifier.isFinal(f.getModifiers()), true);
             } else {
                 own++;
             }
         }
-        DESK.due("fields of " + c + ": " + own, own <= 20, true);
-        for (Method m : c.getDeclaredMethods()) {
-            DESK.due("parameters of " + m, m.getParameterCount() <= 7, true);
+        DESK.due("rule 11: fields of " + c + ": " + own, own <= MOST_FIELDS, true);
+    }
+
+    /** The longest text and the dearest calls, 512 of them: all that they make has room. */
+    private static void room() {
+        var threads = (com.sun.management.ThreadMXBean) ManagementFactory.getThreadMXBean();
+        long me = Thread.currentThread().getId();
+        long before = threads.getThreadAllocatedBytes(me);
+        dearRun();
+        long made = threads.getThreadAllocatedBytes(me) - before;
+        DESK.due("rule 12: bytes made in a run: " + made, made < ROOM, true);
+    }
+
+    private static void dearRun() {
+        StringBuilder text = new StringBuilder("call 5;");
+        for (int k = 0; k < 8; k++) {
+            text.append("tower ").append((char) ('a' + k)).append(" mood 5 cheer 1;");
         }
-        for (Field f : c.getDeclaredFields()) {
-            if (c == AllIsWell.class && !f.getName().equals("NONE") && !f.getName().equals("NOTHING")) {
-                DESK.due(f + " is private", Modifier.isPrivate(f.getModifiers()), true);
-            }
+        text.append("fires 8;says min(heard,mood+cheer)-sigh");
+        while (text.length() < 1597) {
+            text.append("-0");
+        }
+        Desk d = new Desk("a dear run");
+        d.tell(text + ";");
+        d.see(0, 0, 5);
+        for (int k = 0; k < 40; k++) {
+            d.x.cheered(30);
+            d.x.sighs(30);
+            d.x.better(30, 0);
+            d.x.placed(30, 0);
+            d.x.game(0);
+            d.x.tells(0, 2);
+            d.x.chance(1);
+            d.x.image();
+            d.ask("total heard 30");
         }
     }
 }
